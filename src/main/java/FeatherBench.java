@@ -161,16 +161,17 @@ public final class FeatherBench {
     private int stepsInAll;
 
     public FeatherBench() {
-        current = new Program();
+        Program none = new Program();
+        current = none;
         spare = new Program();
-        shapes = new Shapes(current);
-        reader = new Reader(current);
-        told = new Told(current, shapes);
-        bodies = new Bodies(current, shapes, told);
+        shapes = new Shapes(none);
+        reader = new Reader(none);
+        told = new Told(none, shapes);
+        bodies = new Bodies(none, shapes, told);
         asked = new Asked(shapes, told);
-        machine = new Machine(current, shapes);
-        stock = new Stock(current, shapes);
-        press = new Press();
+        machine = new Machine(none, shapes);
+        stock = new Stock(none, shapes);
+        press = new Press(none);
     }
 
     public int feed(long a, long b, long c) {
@@ -593,11 +594,11 @@ public final class FeatherBench {
         }
 
         boolean isStruct(int code) {
-            return code < typeCount() && type(code, T_FORM) == STRUCT;
+            return code < typeCount() && types.get(code * T_CELLS + T_FORM) == STRUCT;
         }
 
         boolean isInterface(int code) {
-            return code < typeCount() && type(code, T_FORM) == INTERFACE;
+            return code < typeCount() && types.get(code * T_CELLS + T_FORM) == INTERFACE;
         }
 
         int typeNamed(Text other, int token) {
@@ -736,16 +737,28 @@ public final class FeatherBench {
             int slots = p.slotCount();
             int name = at;
             expect(WORD);
-            int formals = readFormals(NONE);
-            int form = took(STRUCT) ? STRUCT : INTERFACE;
-            if (form == INTERFACE) {
+            int formals = took('[') ? readNamed(']', FORMAL, NONE) : 0;
+            boolean struct = took(STRUCT);
+            if (!struct) {
                 expect(INTERFACE);
             }
             expect('{');
-            int members = form == STRUCT ? p.slotCount() : p.sigCount();
-            int count = form == STRUCT ? readFields() : readHeads();
+            int members = struct ? p.slotCount() : p.sigCount();
+            int n = 0;
+            while (n <= MOST_IN_LIST && p.fault == FINE && kinds.get(at) != '}') {
+                int member = at;
+                expectFirst(n >= MOST_IN_LIST);
+                if (struct) {
+                    p.addSlot(member, FIELD, at, NONE);
+                    passType(1, 0);
+                } else {
+                    readHead(member);
+                }
+                expect(';');
+                n++;
+            }
             expect('}');
-            p.addType(name, form, slots, formals, members, count);
+            p.addType(name, struct ? STRUCT : INTERFACE, slots, formals, members, n);
         }
 
         private void readFunc() {
@@ -761,7 +774,7 @@ public final class FeatherBench {
             p.addSlot(var, VAR, NONE, sig);
             int name = at;
             expect(WORD);
-            int params = readParams(sig);
+            int params = took('[') ? readParams(sig) : 0;
             expect(')');
             int method = at;
             expect(WORD);
@@ -775,84 +788,43 @@ public final class FeatherBench {
         }
 
         private int readParams(int sig) {
-            if (!took('[')) {
-                return 0;
-            }
             int n = 0;
             do {
-                p.addSlot(passItem(n), PARAM, NONE, sig);
+                p.addSlot(at, PARAM, NONE, sig);
+                expectFirst(n >= MOST_IN_LIST);
                 n++;
             } while (n <= MOST_IN_LIST && took(','));
-            expect(']');
-            return n;
-        }
-
-        private int readFormals(int sig) {
-            if (!took('[')) {
-                return 0;
-            }
-            int n = readNamed(FORMAL, sig);
             expect(']');
             return n;
         }
 
         /** Reads names, each with a TYPE behind it, with , between. */
-        private int readNamed(int kind, int sig) {
+        private int readNamed(int close, int kind, int sig) {
             int n = 0;
             do {
-                int name = passItem(n);
+                int name = at;
+                expectFirst(n >= MOST_IN_LIST);
                 p.addSlot(name, kind, at, sig);
                 passType(1, 0);
                 n++;
             } while (n <= MOST_IN_LIST && took(','));
-            return n;
-        }
-
-        private int readFields() {
-            int n = 0;
-            while (n <= MOST_IN_LIST && p.fault == FINE && kinds.get(at) != '}') {
-                int name = passItem(n);
-                p.addSlot(name, FIELD, at, NONE);
-                passType(1, 0);
-                expect(';');
-                n++;
-            }
-            return n;
-        }
-
-        private int readHeads() {
-            int n = 0;
-            while (n <= MOST_IN_LIST && p.fault == FINE && kinds.get(at) != '}') {
-                readHead(passItem(n));
-                expect(';');
-                n++;
-            }
+            expect(close);
             return n;
         }
 
         private void readHead(int name) {
             int sig = p.sigCount();
             int slots = p.slotCount();
-            int formals = readFormals(sig);
+            int formals = took('[') ? readNamed(']', FORMAL, sig) : 0;
             expect('(');
-            int vars = kinds.get(at) == ')' ? 0 : readNamed(VAR, sig);
-            expect(')');
+            int vars = took(')') ? 0 : readNamed(')', VAR, sig);
             p.addSlot(NONE, RESULT, at, sig);
             passType(1, 0);
             p.addSig(name, slots, formals, vars);
         }
 
-        /** Passes the first token of what has n ahead of it in its list. */
-        private int passItem(int n) {
-            int token = at;
-            p.blame(beginning(n >= MOST_IN_LIST), at);
-            expect(WORD);
-            return token;
-        }
-
         private void passType(int within, int n) {
-            p.blame(beginning(within > MOST_WITHIN || n >= MOST_IN_LIST), at);
-            expect(WORD);
+            expectFirst(within > MOST_WITHIN || n >= MOST_IN_LIST);
             if (p.fault == FINE && kinds.get(at) == '[') {
                 passTypes(within);
             }
@@ -871,16 +843,12 @@ public final class FeatherBench {
         }
 
         private void passValue(int within, int n) {
-            p.blame(beginning(within > MOST_WITHIN || n >= MOST_IN_LIST), at);
-            if (p.fault != FINE) {
-                return;
-            }
-            int behind = kinds.get(at + 1);
-            if (behind == '{' || behind == '[') {
+            int first = at;
+            expectFirst(within > MOST_WITHIN || n >= MOST_IN_LIST);
+            if (p.fault == FINE && (kinds.get(at) == '{' || kinds.get(at) == '[')) {
+                at = first;
                 passType(1, 0);
                 passValues('{', '}', at, within);
-            } else {
-                expect(WORD);
             }
             for (int i = 0; i <= MOST_POINTS && p.fault == FINE && kinds.get(at) == '.'; i++) {
                 if (i == MOST_POINTS) {
@@ -923,13 +891,6 @@ public final class FeatherBench {
             text.lists.set(countAt, n);
         }
 
-        private int beginning(boolean tooMany) {
-            if (kinds.get(at) != WORD) {
-                return MISPLACED;
-            }
-            return tooMany ? TOO_MANY : FINE;
-        }
-
         private boolean took(int kind) {
             boolean here = p.fault == FINE && kinds.get(at) == kind;
             if (here) {
@@ -940,6 +901,19 @@ public final class FeatherBench {
 
         private void expect(int kind) {
             if (p.fault == FINE && kinds.get(at) != kind) {
+                p.fault = MISPLACED + 16 * text.places.get(at);
+            }
+            if (p.fault == FINE) {
+                at++;
+            }
+        }
+
+        /** Passes the WORD with which something begins of which there may be one too many. */
+        private void expectFirst(boolean tooMany) {
+            if (p.fault == FINE && tooMany && kinds.get(at) == WORD) {
+                p.fault = TOO_MANY + 16 * text.places.get(at);
+            }
+            if (p.fault == FINE && kinds.get(at) != WORD) {
                 p.fault = MISPLACED + 16 * text.places.get(at);
             }
             if (p.fault == FINE) {
@@ -1015,15 +989,17 @@ public final class FeatherBench {
         void fill(Row env, int type, int told, int toldCount) {
             int count = arities.get(words.get(type));
             int at = type + 1;
-            for (int i = 0; i < MOST_IN_LIST; i++) {
-                bind(env, i, i < count ? at : i);
-                at = i < count ? end(at) : at;
-            }
-            at = told;
-            for (int i = MOST_IN_LIST; i < PARAMS; i++) {
-                boolean is = i - MOST_IN_LIST < toldCount;
-                bind(env, i, is ? at : i);
-                at = is ? end(at) : at;
+            for (int i = 0; i < PARAMS; i++) {
+                if (i == MOST_IN_LIST) {
+                    count = MOST_IN_LIST + toldCount;
+                    at = told;
+                }
+                // a PARAM for which there is nothing stays as it is
+                int from = i < count ? at : i;
+                int to = end(from);
+                env.set(i, from);
+                env.set(PARAMS + i, to);
+                at = i < count ? to : at;
             }
         }
 
@@ -1947,17 +1923,15 @@ public final class FeatherBench {
             tried = true;
             endless = false;
             goThrough(p.mainCode);
-            boolean more = true;
-            for (int i = 0; i < FAR_BEYOND && more && !endless; i++) {
-                more = false;
-                for (int c = 0; c < callCount() && !endless; c++) {
-                    int done = c * CALL_CELLS + CALL_CELLS - 1;
-                    int t = calls.get(done);
-                    more = more || t < types.size;
-                    for (; t < types.size && !endless; t++) {
-                        answer(c * CALL_CELLS, types.get(t));
-                    }
-                    calls.set(done, t);
+            // a round in which no METHOD is new was the last one
+            int done = -1;
+            for (int i = 0; i <= MOST_INSTANCES && done < methodCount() && !endless; i++) {
+                done = methodCount();
+                for (int c = 0; c < callCount(); c++) {
+                    answer(c * CALL_CELLS);
+                }
+                for (int m = done; m < methodCount() && !endless; m++) {
+                    goThrough(openMethod(m * METHOD_CELLS));
                 }
             }
             complete = !endless;
@@ -1973,32 +1947,41 @@ public final class FeatherBench {
             return NONE;
         }
 
-        private void answer(int call, int type) {
-            int code = words.get(type);
-            if (!p.isStruct(code)) {
-                return;
+        /** Holds the types that are new for a CALL against it. */
+        private void answer(int call) {
+            int done = call + CALL_CELLS - 1;
+            for (int t = calls.get(done); t < types.size && !endless; t++) {
+                int type = types.get(t);
+                int code = words.get(type);
+                int kind = p.isStruct(code) ? shapes.meets(type, calls.get(call)) : UNMET;
+                endless = endless || kind == TOO_GREAT;
+                if (kind == FINE) {
+                    addMethod(call, type, p.funcOf(code, calls.get(call + 1)));
+                }
             }
-            int kind = shapes.meets(type, calls.get(call));
-            endless = endless || kind == TOO_GREAT;
-            if (kind != FINE) {
-                return;
-            }
-            int func = p.funcOf(code, calls.get(call + 1));
-            int count = calls.get(call + 2);
-            begin(type, func, count);
-            shapes.fill(shapes.env, type, 0, 0);
-            for (int i = 0; i < count; i++) {
-                int told = calls.get(call + HEAD + i);
-                fresh.set(HEAD + i, told);
-                shapes.bind(shapes.env, MOST_IN_LIST + i, told);
+            calls.set(done, types.size);
+        }
+
+        private void addMethod(int call, int type, int func) {
+            begin(type, func, calls.get(call + 2));
+            for (int i = 0; i < MOST_IN_LIST; i++) {
+                fresh.set(HEAD + i, calls.get(call + HEAD + i));
             }
             if (!holds(methods, METHOD_CELLS)) {
                 for (int i = 0; i < METHOD_CELLS; i++) {
                     methods.add(fresh.get(i));
                 }
                 countAll();
-                goThrough(p.func(func, F_CODE));
             }
+        }
+
+        /** Makes ready to put what a METHOD has for PARAMS, and tells where its code is. */
+        private int openMethod(int method) {
+            shapes.fill(shapes.env, methods.get(method), 0, 0);
+            for (int i = 0; i < methods.get(method + 2); i++) {
+                shapes.bind(shapes.env, MOST_IN_LIST + i, methods.get(method + HEAD + i));
+            }
+            return p.func(methods.get(method + 1), F_CODE);
         }
 
         private void begin(int type, int what, int count) {
@@ -2060,16 +2043,15 @@ public final class FeatherBench {
             int end = find(type) < 0 ? shapes.end(type) : type;
             for (int at = type; at < end && !endless; at++) {
                 if (find(at) < 0) {
-                    types.add(copy(at));
+                    types.add(copy(at, shapes.end(at) - at));
                     countAll();
                 }
             }
             return find(type);
         }
 
-        private int copy(int type) {
+        private int copy(int type, int size) {
             int from = next;
-            int size = shapes.end(type) - type;
             for (int i = 0; i < size; i++) {
                 words.set(from + i, words.get(type + i));
             }
@@ -2094,7 +2076,7 @@ public final class FeatherBench {
             }
             fresh.set(0, type);
             if (!holds(calls, CALL_CELLS)) {
-                fresh.set(0, copy(type));
+                fresh.set(0, copy(type, shapes.end(type) - type));
                 for (int i = 0; i < METHOD_CELLS; i++) {
                     calls.add(fresh.get(i));
                 }
@@ -2110,6 +2092,10 @@ public final class FeatherBench {
         private final Row open = new Row(100, 2 * MOST_OUT);
         private final Row openTypes = new Row(MOST_WORDS + 1, MOST_WORDS + 1);
         private Program p;
+
+        Press(Program p) {
+            this.p = p;
+        }
 
         void begin(Program program) {
             p = program;
