@@ -512,7 +512,7 @@ public final class FeatherBench {
     /** What a program's text tells, in tables. */
     private static final class Program {
         private final Text text = new Text();
-        private final Row words = new Row(KEPT + 300, KEPT + MOST_KEPT);
+        private final Row words = new Row(KEPT + 1000, KEPT + MOST_KEPT);
         /** The tokens of the WORDS that are kept, from the first of these on. */
         private final Row tokens = new Row(300, MOST_KEPT);
         private final Row arities = new Row(MOST_TYPES, MOST_TYPES);
@@ -1441,19 +1441,32 @@ public final class FeatherBench {
             int behind = kinds.get(at + 1);
             int type = behind == '{' || behind == '[' ? literal(within) : variable();
             for (int i = 0; i < MOST_POINTS && p.fault == FINE && kinds.get(at) == '.'; i++) {
-                int point = at;
-                at++;
-                int next = kinds.get(at + 1);
-                if (kinds.get(at) == '(') {
-                    type = cast(type, point);
-                } else if (next == '(' || next == '[') {
-                    type = method(type, within);
-                } else {
-                    type = field(type, point);
-                }
-                type = shapes.settle(type, mark);
+                type = shapes.settle(behindPoint(type, within), mark);
             }
             return type;
+        }
+
+        /** Checks what stands behind the point here, with the type of what is ahead of it. */
+        private int behindPoint(int type, int within) {
+            int point = at;
+            at++;
+            if (kinds.get(at) != '(') {
+                int next = kinds.get(at + 1);
+                return next == '(' || next == '[' ? method(type, within) : field(type, point);
+            }
+            if (p.isStruct(p.words.get(type))) {
+                p.blame(WRONG_FORM, point);
+                return type;
+            }
+            int token = at + 1;
+            int want = p.kept;
+            at = told.tell(token, 1) + 1;
+            told.lookAtBounds(want, p.kept);
+            if (p.fault == FINE && p.isStruct(p.words.get(want))) {
+                p.blame(shapes.meets(want, shapes.methodOwner(type)), token);
+            }
+            p.addCode(DO_CAST, want, text.places.get(point), 0, 0, 0);
+            return want;
         }
 
         private int variable() {
@@ -1585,22 +1598,6 @@ public final class FeatherBench {
                 shapes.top = mark;
                 type = shapes.end(type);
             }
-        }
-
-        private int cast(int type, int point) {
-            if (p.isStruct(p.words.get(type))) {
-                p.blame(WRONG_FORM, point);
-                return type;
-            }
-            int token = at + 1;
-            int want = p.kept;
-            at = told.tell(token, 1) + 1;
-            told.lookAtBounds(want, p.kept);
-            if (p.fault == FINE && p.isStruct(p.words.get(want))) {
-                p.blame(shapes.meets(want, shapes.methodOwner(type)), token);
-            }
-            p.addCode(DO_CAST, want, text.places.get(point), 0, 0, 0);
-            return want;
         }
     }
 
