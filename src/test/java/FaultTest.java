@@ -27,7 +27,6 @@ public final class FaultTest {
 
     private static void tokens() {
         Due.fine("type\nA struct{}\n\nmain A{ } ;\n ");
-        Due.fine("typeA struct{} main A{};".replace("typeA", "type A"));
         Due.fine("type Abcdefghij12 struct{} main Abcdefghij12{};");
         Due.fault(1, "type ^Abcdefghij123 struct{} main A{};");
         Due.fault(1, "type ^9a struct{} main A{};");
@@ -56,7 +55,7 @@ public final class FaultTest {
         Due.fault(1, "type A interface{m ^A;} main A{};");
         Due.fault(1, "type A interface{m(x^)A;} main A{};");
         Due.fault(1, "type A interface{m(x A,^)A;} main A{};");
-        Due.fault(1, "type A interface{m[a](x A)A;} main A{};".replace("[a]", "[a^]"));
+        Due.fault(1, "type A interface{m[a^](x A)A;} main A{};");
         Due.fault(1, A + "func ^x A)m()A{return x}" + MAIN);
         Due.fault(1, A + "func(x^)m()A{return x}" + MAIN);
         Due.fault(1, A + "func(x A[^])m()A{return x}" + MAIN);
@@ -300,7 +299,7 @@ public final class FaultTest {
         Due.fault(7, m + "main A{}.g[C,^C](E{},A{});");
         Due.fault(7, m + "main A{}.g[A,A](^C{},A{});");
         Due.fault(2, m + "main A{}.g[A,A](A{},^x);");
-        Due.fault(7, m + "main A{}.g[A,A](A{},^C{}.(A));".replace(".(A)", ""));
+        Due.fault(7, m + "main A{}.g[A,A](A{},^C{});");
         // WORDS of all TYPES first, then what is in their [ ], then their BOUNDS
         String n = m + "type N[a M] struct{} ";
         Due.fault(2, n + "main A{}.g[N[C],^D](C{},A{});");
