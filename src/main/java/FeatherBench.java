@@ -1992,7 +1992,9 @@ public final class FeatherBench {
 
         /** Whether the fresh one stands in a row: TYPES told are one if their places are. */
         private boolean holds(Row row, int cells) {
-            for (int at = 0; at < row.size; at += cells) {
+            int count = cells > 0 ? row.size / cells : 0;
+            for (int n = 0; n < count; n++) {
+                int at = n * cells;
                 boolean is = row.get(at + 1) == fresh.get(1) && shapes.same(row.get(at), fresh.get(0));
                 for (int i = 2; is && i < METHOD_CELLS; i++) {
                     is = row.get(at + i) == fresh.get(i);

@@ -15,7 +15,8 @@ public final class FaceTest {
         for (Method m : face.getDeclaredMethods()) {
             if (!Modifier.isPrivate(m.getModifiers())) {
                 String types = Arrays.toString(m.getParameterTypes());
-                seen.add(Modifier.toString(m.getModifiers()) + " " + m.getReturnType() + " " + m.getName() + types);
+                String name = m.getReturnType() + " " + m.getName();
+                seen.add(Modifier.toString(m.getModifiers()) + " " + name + types);
             }
         }
         for (Field f : face.getDeclaredFields()) {

@@ -349,7 +349,8 @@ public final class FaultTest {
         Due.fault(9, base + "main B[" + p15 + "]{" + p31 + "{}}.up().^up();");
         Due.fault(9, base + "main B[" + p15 + "]{" + p31 + "{}}.up().^f;");
         Due.fault(9, base + "main B[" + p15 + "]{" + p31 + "{}}.up().take(^A{});");
-        Due.fault(9, base + "type C struct{} func(x C)g()" + p3 + "{return " + p3 + "{}} main V[" + p31 + "]{^C{}};");
+        String c = "type C struct{} func(x C)g()" + p3 + "{return " + p3 + "{}} ";
+        Due.fault(9, base + c + "main V[" + p31 + "]{^C{}};");
         // what is not so ends it before a type would be too great
         Due.fault(7, base + "main V[" + p31 + "]{^A{}};");
         Due.fault(9, base + "type D struct{f N[^" + p31 + "];} func(x P[a,b])g()A{return A{}}" + MAIN);

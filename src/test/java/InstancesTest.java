@@ -129,8 +129,8 @@ public final class InstancesTest {
         made(big + "type H struct{t Two[A];} func(x A)two()P[A,A]{return P[A,A]{x,x}} "
             + "main P[Any,Any]{H{A{}}.t.two(),Q[" + p15 + "]{}};", 8, 1, 1);
         // the type of what is ahead of a point comes to be, too, though a run has no need of it
-        String ahead = "type W[a Any] interface{w()Any;} type V[a Any] struct{f W[P[a,a]];} func(x A)w()Any{return x} "
-            + "func(x V[a])go()Any{return x.f.w()} func(x A)mk[q Any]()Any{return V[P[q,q]]{x}.go()} main A{}.mk[";
+        String ahead = "type W[a Any] interface{w()Any;} type V[a Any] struct{f W[P[a,a]];} "
+            + "func(x A)w()Any{return x} func(x V[a])go()Any{return x.f.w()} func(x A)mk[q Any]()Any{return V[P[q,q]]{x}.go()} main A{}.mk[";
         notMade(ahead + p15 + "]();");
         Due.same("run", Due.fresh().with(BASE + ahead + p15 + "]();").bench.run(5000), 0);
         made(ahead + "A]();", 3, 3, 3);

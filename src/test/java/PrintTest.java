@@ -17,8 +17,8 @@ public final class PrintTest {
         type("main P[Box[ P [C,Any]],A]{Box[P[C,Any]]{P[C,Any]{C{},A{}}},A{}}.x;", "Box[P[C,Any]]");
         type("main Box[Any]{A{}}.v;", "Any");
         type("main Box[Any]{A{}}.v.(P[A,Box[Any]]);", "P[A,Box[Any]]");
-        type("func(x Box[b])m[c Any](y c)P[c,Box[b]]{return P[c,Box[b]]{y,x}} main Box[A]{A{}}.m[Box[C]](Box[C]{C{}});",
-            "P[Box[C],Box[A]]");
+        type("func(x Box[b])m[c Any](y c)P[c,Box[b]]{return P[c,Box[b]]{y,x}} "
+            + "main Box[A]{A{}}.m[Box[C]](Box[C]{C{}});", "P[Box[C],Box[A]]");
         type("type Abcdefghij12 struct{} main Abcdefghij12{};", "Abcdefghij12");
     }
 
@@ -33,7 +33,8 @@ public final class PrintTest {
         value("main Box[Any]{Box[A]{A{}}}.v;", "Box[A]{A{}}");
         value("func(x Box[b])m[c Any](y c)Any{return P[c,Box[b]]{y,x}} main Box[A]{A{}}.m[C](C{});",
             "P[C,Box[A]]{C{},Box[A]{A{}}}");
-        value("type S struct{a Any;b Any;c Any;d Any;e Any;f Any;} main S{A{},C{},A{},C{},A{},S{A{},A{},A{},A{},A{},C{}}};",
+        value("type S struct{a Any;b Any;c Any;d Any;e Any;f Any;} "
+            + "main S{A{},C{},A{},C{},A{},S{A{},A{},A{},A{},A{},C{}}};",
             "S{A{},C{},A{},C{},A{},S{A{},A{},A{},A{},A{},C{}}}");
     }
 
