@@ -160,11 +160,14 @@ public final class FaultTest {
         Due.fault(3, A + "func(x A)m()A{return x} func(x A)n()A{return x} func(y A)^m(z A)A{return y}" + MAIN);
         // the same NAME counts, whether or not it is a type
         Due.fault(3, A + "func(x B)m()A{return x} func(x B)^m()A{return x}" + MAIN);
+        // a PARAM may be called as a VAR
+        Due.fine(BOX + A + "func(x Box[x])m[y Any](y y)x{return x.v}" + MAIN);
         // two structs may have METHODS of one name, a FIELD may be called as a METHOD, a PARAM as a type
         Due.fine(A + "type B struct{m A;} func(x A)m()A{return x} func(x B)m()A{return x.m}" + MAIN);
         Due.fine(ANY + A + "type B[A Any] struct{f A;} main B[A]{A{}};");
         // a METHOD's PARAM may be called as its interface's, and hides it; so may VARS there
         Due.fine(ANY + A + "type B[a Any] interface{m[a Any](x a,x a)a;}" + MAIN);
+        Due.fine("type I interface{m(x A,x A)A;} " + A + MAIN);
         // the first from the left
         Due.fault(3, "type B struct{f C;^f C;} type B struct{} main C{};");
     }
@@ -194,6 +197,7 @@ public final class FaultTest {
         Due.fine(BOX + A + "func(x Box[b])m[c Any](y b,z c)Box[Box[c]]{return Box[Box[c]]{Box[c]{z}}}" + MAIN);
         Due.fault(2, BOX + A + "func(x Box[b])m(y ^a)A{return A{}}" + MAIN);
         // NAMES that are told behind
+        Due.fine("type Box[a Any] struct{v a;} type Any interface{} type A struct{} main Box[A]{A{}};");
         Due.fine("type B struct{f A;} func(x A)m()B{return B{x}} type A struct{} main A{};");
     }
 
@@ -346,6 +350,19 @@ public final class FaultTest {
         Due.fault(2, base + "main B[" + p31 + "]{^x};");
         Due.fault(7, base + "main B[" + p15 + "]{^A{}};");
         Due.fine(base + "main B[" + p7 + "]{" + p15 + "{}}.up();");
+        // P[a,a] of 59 WORDS, B of it of 60
+        String b29 = "P[" + p15 + ",P[" + p7 + ",P[Q[A],Q[A]]]]";
+        String up60 = base + "type Q[a Any] struct{} func(x Q[a])q()B[P[a,a]]{return x.q()} ";
+        Due.fine(up60 + "main Q[" + b29 + "]{}.q();");
+        Due.fault(9, up60 + "main Q[Q[" + b29 + "]]{}.^q();");
+        // the BOUND of a METHOD's FORMAL with types put
+        String g3 = "type D struct{} func(x D)g()" + p3 + "{return " + p3 + "{}} ";
+        Due.fine(base + g3 + "main B[A]{" + p3 + "{}}.bound[D]();");
+        Due.fault(7, base + g3 + "main B[D]{P[D,D]{}}.bound[^D]();");
+        Due.fault(9, base + g3 + "func(x B[a])to[b Any]()B[b]{return x.to[b]()} "
+            + "main B[A]{" + p3 + "{}}.to[" + p31 + "]().bound[^D]();");
+        Due.fine(base + g3 + "func(x A)both[p Any,q G[p]]()A{return x} main A{}.both[A,D]();");
+        Due.fault(7, base + g3 + "func(x A)both[p Any,q G[p]]()A{return x} main A{}.both[D,^D]();");
         Due.fault(9, base + "main B[" + p15 + "]{" + p31 + "{}}.up().^up();");
         Due.fault(9, base + "main B[" + p15 + "]{" + p31 + "{}}.up().^f;");
         Due.fault(9, base + "main B[" + p15 + "]{" + p31 + "{}}.up().take(^A{});");

@@ -16,7 +16,12 @@ public final class ImplementingTest {
         + "func(x A)two()P[A,A]{return P[A,A]{}} func(x A)one()C{return C{}} "
         + "func(x P[a,b])two()P[a,a]{return P[a,a]{}} func(x P[a,b])one()A{return A{}} "
         + "func(x P[a,b])m(y A,z A)C{return C{}} "
+        + "type One interface{one()C;} type NoVar interface{nov()A;} func(x C)nov(y A)A{return y} "
         + "main A{};";
+
+    private static final String P7 = "P[P[A,A],P[A,A]]";
+    private static final String P15 = "P[" + P7 + "," + P7 + "]";
+    private static final String P29 = "P[" + P15 + ",P[" + P7 + ",P[Box[A],Box[A]]]]";
 
     public static void main(String[] args) {
         shapes();
@@ -41,6 +46,9 @@ public final class ImplementingTest {
         ask(" A\n ; M ", 1);
         ask("C;M", 0);
         ask("P[A,A];M", 0);
+        ask("C;NoVar", 0);
+        ask("A;One", 1);
+        ask("P[A,A];One", 0);
         ask("MM;M", 1);
         ask("M;MM", 0);
         ask("M;A", 0);
@@ -100,6 +108,9 @@ public final class ImplementingTest {
         ask(p + ";Any", 1);
         ask("P[" + p + "," + p + "];Any", -2);
         ask("Box[P[Box[A]," + p + "]];Any", 1);
+        // P[a,a] with 29 and with 30 WORDS for a
+        ask("P[" + P29 + ",A];Two[" + P29 + "]", 1);
+        ask("P[Box[" + P29 + "],A];Two[Box[" + P29 + "]]", -2);
         // METHODS are asked for as they are told, the interface's types coming to be first
         ask("A;Two[" + p + "]", -2);
         ask("Two[" + p + "];Two[" + p + "]", -2);

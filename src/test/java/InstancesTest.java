@@ -1,3 +1,6 @@
+import java.util.HashSet;
+import java.util.Set;
+
 /** Promises 8, 9, 10: the instances that a run can need. */
 public final class InstancesTest {
     private static final String BASE = "type Any interface{} type A struct{} type C struct{} "
@@ -44,6 +47,7 @@ public final class InstancesTest {
         made("func(x A)m()C{return C{}.n()} func(x C)n()C{return x} main A{}.m();", 2, 2, 2);
         // TYPES told make another CALL and another METHOD
         made("func(x A)m[p Any]()A{return x} main A{}.m[A]().m[C]().m[A]();", 2, 2, 2);
+        made("func(x A)m()A{return x} func(x A)g[p Any]()A{return x} main A{}.g[A]().m().g[C]().m().g[C]();", 2, 3, 3);
         made("func(x Box[b])m()b{return x.v} main P[A,C]{Box[A]{A{}}.m(),Box[C]{C{}}.m()};", 5, 2, 2);
     }
 
@@ -99,6 +103,50 @@ public final class InstancesTest {
         notMade(manyCalls(73, ""));
         notMade(manyCalls(72, "Extra"));
         made(manyCalls(71, "Extra"), 7, 71, 71);
+        // no CALLS at all
+        made(manyTypes(150), 150, 0, 0);
+        notMade(manyTypes(151));
+        // CALLS of an interface that nothing implements
+        made(callsOnly(146), 4, 146, 0);
+        notMade(callsOnly(147));
+    }
+
+    /** A main in which that many types are told: A, Any, Box[Any], and I[..] around chains of structs. */
+    private static String manyTypes(int count) {
+        Set<String> types = new HashSet<>(Set.of("A", "Any", "Box[Any]"));
+        StringBuilder casts = new StringBuilder();
+        for (int chain = 0; types.size() < count; chain++) {
+            String type = "A";
+            for (int i = 0; i < 8 && types.size() < count - 1; i++) {
+                type = "BDEF".charAt(chain >> Math.min(2 * i, 20) & 3) + "[" + type + "]";
+                types.add(type);
+            }
+            types.add("I[" + type + "]");
+            casts.append(".(I[").append(type).append("])");
+        }
+        return "type B[a Any] struct{} type D[a Any] struct{} type E[a Any] struct{} type F[a Any] struct{} "
+            + "type I[a Any] interface{} main Box[Any]{A{}}.v" + casts + ";";
+    }
+
+    /** A main with calls on an interface alone, in rows of ten, six rows in one value. */
+    private static String callsOnly(int count) {
+        String[] types = {"A", "K", "Any", "Q"};
+        String whole = "Q{A{},A{},A{},A{},A{},A{}}";
+        int n = 0;
+        while (n < count) {
+            StringBuilder value = new StringBuilder("Q{" + whole);
+            for (int i = 1; i < 6; i++) {
+                value.append(",Q{A{},A{},A{},A{},A{},A{}}.a");
+                for (int j = 0; j < 9 && n < count; j++) {
+                    value.append(".(K).k[").append(types[n / 64 % 4]).append(",").append(types[n / 16 % 4]).append(",")
+                        .append(types[n / 4 % 4]).append(",").append(types[n % 4]).append("]()");
+                    n++;
+                }
+            }
+            whole = value + "}";
+        }
+        return "type Q struct{a Any;b Any;c Any;d Any;e Any;f Any;} "
+            + "type K interface{k[a Any,b Any,c Any,d Any]()Any;} main " + whole + ";";
     }
 
     /** A main with calls of one METHOD, each with other TYPES told, in rows of ten. */

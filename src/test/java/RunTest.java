@@ -136,6 +136,9 @@ public final class RunTest {
             + "func(x S)s()N{return S{S{S{S{S{S{S{S{S{x}}}}}}}}}} type T interface{s()N;} ";
         run(chain + "main S{S{S{A{}.s().(T).s().(T).s().(T).s()}}}.go();", 5000, 0, 126, 44);
         run(chain + "main S{S{S{S{A{}.s().(T).s().(T).s().(T).s()}}}}.go();", 5000, 3, 129, 44);
+        Due d = Due.fresh().with(BASE + chain + "main P[Any,Any]{C{},S{S{S{A{}.s().(T).s().(T).s().(T).s()}}}.go()};");
+        Due.same("run", d.bench.run(5000), 0);
+        Due.same("value", d.printed(1), "P[Any,Any]{C{},A{}}");
         // a METHOD's TYPES and its STEP are ahead of DEEP
         run("func(x A)m[p Any]()A{return x.m[p]()} main A{}.m[A]();", 5000, 3, 82, 40);
         run("func(x A)m[p Any]()A{return x.m[p]()} main A{}.m[A]();", 81, 2, 81, 40);
@@ -164,6 +167,11 @@ public final class RunTest {
     }
 
     private static void greatAheadOfSpent() {
+        // 48 WORDS and on: 60 are not too many, 61 are
+        String p15 = "P[P[P[A,A],P[A,A]],P[P[A,A],P[A,A]]]";
+        String p47 = "P[" + p15 + ",P[" + p15 + "," + p15 + "]]";
+        run("func(x A)q[p Any]()Any{return x.q[Box[p]]()} main A{}.q[" + p47 + "]();", 5000, 4,
+            2 + 13 * (48 + 60) / 2 + 13, 14);
         String m = "func(x A)m[p Any]()Any{return x.m[P[p,p]]()} main A{}.m[A]();";
         run(m, 62, 4, 62, 5);
         run(m, 61, 2, 61, 4);
