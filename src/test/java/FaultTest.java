@@ -162,6 +162,7 @@ public final class FaultTest {
         Due.fault(3, A + "func(x B)m()A{return x} func(x B)^m()A{return x}" + MAIN);
         // a PARAM may be called as a VAR
         Due.fine(BOX + A + "func(x Box[x])m[y Any](y y)x{return x.v}" + MAIN);
+        Due.fine(BOX + A + "func(x Box[b])m[x Any](b x)x{return b}" + MAIN);
         // two structs may have METHODS of one name, a FIELD may be called as a METHOD, a PARAM as a type
         Due.fine(A + "type B struct{m A;} func(x A)m()A{return x} func(x B)m()A{return x.m}" + MAIN);
         Due.fine(ANY + A + "type B[A Any] struct{f A;} main B[A]{A{}};");

@@ -85,6 +85,15 @@ public final class ReuseTest {
         Due.same("isMade", d.isMade("Box[Box[A]]"), 1);
         Due.same("a fault", d.program("type A struct{} main A{"), 1 + 16 * 23);
         Due.same("value", d.printed(1), value);
+        // behind a fault all is asked of the program that stayed
+        Due e = Due.fresh().with(PROGRAMS[2]);
+        Due.same("a fault", e.program(PROGRAMS[12]) & 15, 7);
+        Due.same("instances", e.bench.instances(), 1);
+        Due.same("types", e.bench.made(0), 4);
+        Due f = Due.fresh().with(BASE + "type M interface{m()A;} func(x C)m()A{return A{}} main A{};");
+        Due.same("a fault", f.program(PROGRAMS[9]) & 15, 2);
+        Due.same("implementing", f.implementing("C;M"), 1);
+        Due.same("implementing", f.implementing("A;M"), 0);
         // PARAMS of where a fault was hold no longer
         Due.same("a fault", d.program(PROGRAMS[8]) & 15, 2);
         Due.same("c", d.implementing("c;Any"), -2);
