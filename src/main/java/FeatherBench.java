@@ -847,7 +847,8 @@ public final class FeatherBench {
             expectFirst(within > MOST_WITHIN || n >= MOST_IN_LIST);
             if (p.fault == FINE && (kinds.get(at) == '{' || kinds.get(at) == '[')) {
                 at = first;
-                passType(1, 0);
+                // TYPES and E are counted together: a TYPE of an E stands within it
+                passType(within + 1, 0);
                 passValues('{', '}', at, within);
             }
             for (int i = 0; i <= MOST_POINTS && p.fault == FINE && kinds.get(at) == '.'; i++) {
@@ -862,7 +863,7 @@ public final class FeatherBench {
         private void passPoint(int within) {
             expect('.');
             if (took('(')) {
-                passType(1, 0);
+                passType(within + 1, 0);
                 expect(')');
                 return;
             }
@@ -870,8 +871,7 @@ public final class FeatherBench {
             expect(WORD);
             boolean told = p.fault == FINE && kinds.get(at) == '[';
             if (told) {
-                // TYPES in [ ] behind a METHOD are not within a TYPE
-                passTypes(0);
+                passTypes(within);
             }
             if (told || kinds.get(at) == '(') {
                 passValues('(', ')', name, within);

@@ -11,6 +11,7 @@ public final class FaultTest {
         readingE();
         limitsOfLists();
         limitsOfNesting();
+        typesWithinE();
         twice();
         toldTypes();
         greatTypes();
@@ -136,15 +137,52 @@ public final class FaultTest {
     }
 
     private static void limitsOfNesting() {
-        String nat = ANY + "type Z struct{} type S struct{n Any;} ";
-        Due.fine(nat + "main " + "S{".repeat(9) + "Z{}" + "}".repeat(9) + ";");
-        Due.fault(5, nat + "main " + "S{".repeat(10) + "^Z{}" + "}".repeat(10) + ";");
-        Due.fault(1, nat + "main " + "S{".repeat(10) + "^;");
-        Due.fine(BOX + A + "type B struct{f " + "Box[".repeat(9) + "A" + "]".repeat(9) + ";}" + MAIN);
-        Due.fault(5, BOX + A + "type B struct{f " + "Box[".repeat(10) + "^A" + "]".repeat(10) + ";}" + MAIN);
+        String field = BOX + A + "type B struct{f ";
+        Due.fine(field + nest(9, "Box[", "A", "]") + ";}" + MAIN);
+        Due.fault(5, field + nest(10, "Box[", "^A", "]") + ";}" + MAIN);
+        Due.fault(1, field + nest(10, "Box[", "^", "]") + ";}" + MAIN);
+        String value = ANY + A + "type S struct{n Any;} main ";
+        Due.fine(value + nest(8, "S{", "A{}", "}") + ";");
+        Due.fault(5, value + nest(9, "S{", "^A{}", "}") + ";");
+        Due.fault(5, value + "S{".repeat(9) + "^S{A{}}" + "}".repeat(9) + ";");
+        Due.fault(1, value + "S{".repeat(9) + "^;");
         String same = A + "func(x A)m(y A)A{return y} main ";
-        Due.fine(same + "A{}.m(".repeat(9) + "A{}" + ")".repeat(9) + ";");
-        Due.fault(5, same + "A{}.m(".repeat(10) + "^A{}" + ")".repeat(10) + ";");
+        Due.fine(same + nest(8, "A{}.m(", "A{}", ")") + ";");
+        Due.fault(5, same + nest(9, "A{}.m(", "^A{}", ")") + ";");
+        // an E that is a VAR has no TYPE in it
+        String var = A + "func(x A)m(y A)A{return ";
+        Due.fine(var + nest(9, "x.m(", "y", ")") + "}" + MAIN);
+        Due.fault(5, var + nest(10, "x.m(", "^y", ")") + "}" + MAIN);
+        Due.fault(1, var + nest(10, "x.m(", "^,", ")") + "}" + MAIN);
+    }
+
+    private static String nest(int times, String open, String inmost, String close) {
+        return open.repeat(times) + inmost + close.repeat(times);
+    }
+
+    /** A TYPE stands within its E: they are counted together. */
+    private static void typesWithinE() {
+        Due.fault(5, "main " + "A{".repeat(9) + "^A{}}}");
+        String empty = ANY + A + "type Q[a Any] struct{} main ";
+        Due.fine(empty + nest(8, "Q[", "A", "]") + "{};");
+        Due.fault(5, empty + nest(9, "Q[", "^A", "]") + "{};");
+        inCalls(8, "y.(A)", "y.(^A)");
+        inCalls(7, "y.(Box[A])", "y.(Box[^A])");
+        inCalls(8, "x.k[A](y)", "x.k[^A](y)");
+        inCalls(7, "x.k[Box[A]](y)", "x.k[Box[^A]](y)");
+        inCalls(7, "x.k[A](y.(A))", "x.k[A](y.(^A))");
+        inCalls(8, "A{}", "^A{}");
+        inCalls(7, "Box[A]{x}", "Box[^A]{x}");
+        // what is behind a point is not within what is ahead of it
+        inCalls(8, "y.(A).k[A](y).(A).m(y).(Any)", "y.(^A).k[A](y).(A).m(y).(Any)");
+        inCalls(9, "x", "^x");
+    }
+
+    /** What is fine within that many calls has a fault within one more. */
+    private static void inCalls(int calls, String fine, String wrong) {
+        String ahead = BOX + A + "func(x A)k[a Any](y Any)Any{return y} func(x A)m(y Any)Any{return ";
+        Due.fine(ahead + nest(calls, "x.m(", fine, ")") + "}" + MAIN);
+        Due.fault(5, ahead + nest(calls + 1, "x.m(", wrong, ")") + "}" + MAIN);
     }
 
     private static void twice() {

@@ -111,21 +111,28 @@ public final class InstancesTest {
         notMade(callsOnly(147));
     }
 
-    /** A main in which that many types are told: A, Any, Box[Any], and I[..] around chains of structs. */
+    /** A main in which that many types are told: A, Any, Box[Any], and I[..,..] around chains of structs. */
     private static String manyTypes(int count) {
         Set<String> types = new HashSet<>(Set.of("A", "Any", "Box[Any]"));
         StringBuilder casts = new StringBuilder();
-        for (int chain = 0; types.size() < count; chain++) {
-            String type = "A";
-            for (int i = 0; i < 8 && types.size() < count - 1; i++) {
-                type = "BDEF".charAt(chain >> Math.min(2 * i, 20) & 3) + "[" + type + "]";
-                types.add(type);
-            }
-            types.add("I[" + type + "]");
-            casts.append(".(I[").append(type).append("])");
+        for (int pair = 0; types.size() < count; pair++) {
+            // room for one is left: the I around both chains
+            String type = "I[" + chain(2 * pair, types, count - 1) + "," + chain(2 * pair + 1, types, count - 1) + "]";
+            types.add(type);
+            casts.append(".(").append(type).append(")");
         }
         return "type B[a Any] struct{} type D[a Any] struct{} type E[a Any] struct{} type F[a Any] struct{} "
-            + "type I[a Any] interface{} main Box[Any]{A{}}.v" + casts + ";";
+            + "type I[a Any,b Any] interface{} main Box[Any]{A{}}.v" + casts + ";";
+    }
+
+    /** Structs around A that no other chain has, each added to the types while these are not as many as told. */
+    private static String chain(int number, Set<String> types, int most) {
+        String type = "A";
+        for (int i = 0; i < 7 && types.size() < most; i++) {
+            type = "BDEF".charAt(number >> 2 * i & 3) + "[" + type + "]";
+            types.add(type);
+        }
+        return type;
     }
 
     /** A main with calls on an interface alone, in rows of ten, six rows in one value. */

@@ -48,7 +48,8 @@ public final class PrintTest {
     private static void cutOff() {
         // 2^9 A, in pairs of one and the same value
         Due d = Due.fresh().with(BASE + "type T struct{x Any;y Any;} "
-            + "func(x A)t(y Any)Any{return T{y,y}} main " + "A{}.t(".repeat(9) + "A{}" + ")".repeat(9) + ";");
+            + "func(x A)t(y Any)Any{return T{y,y}} func(x A)two()Any{return x.t(x)} "
+            + "main " + "A{}.t(".repeat(8) + "A{}.two()" + ")".repeat(8) + ";");
         Due.same("run", d.bench.run(5000), 0);
         String whole = "A{}";
         for (int i = 0; i < 9; i++) {
