@@ -4,6 +4,7 @@ import java.util.List;
 /** A FeatherBench with texts for longs, that tells each answer that is not the one due. */
 final class Due {
     private static int looked = 0;
+    private static String sentence = "";
     private static final List<String> WRONG = new ArrayList<>();
 
     FeatherBench bench = new FeatherBench();
@@ -52,16 +53,21 @@ final class Due {
         return out;
     }
 
+    /** What follows looks at this sentence of the document, up to the next one. */
+    static void says(String words) {
+        sentence = "\"" + words + "\": ";
+    }
+
     /** Loads a program that must be without a fault. */
     Due with(String text) {
         same(text, program(text), 0);
         return this;
     }
 
-    /** Expects a fault of that kind at the sign that has ^ ahead of it. */
+    /** Expects a fault of that kind at the sign that has the first ^ ahead of it. */
     static void fault(int kind, String marked) {
         int place = marked.indexOf('^');
-        String text = marked.replace("^", "");
+        String text = marked.substring(0, place) + marked.substring(place + 1);
         same(marked, new Due().program(text), kind + 16 * place);
     }
 
@@ -72,14 +78,14 @@ final class Due {
     static void same(String what, long got, long due) {
         looked++;
         if (got != due) {
-            WRONG.add(what + " answered " + got + ", due is " + due);
+            WRONG.add(sentence + what + " answered " + got + ", due is " + due);
         }
     }
 
     static void same(String what, String got, String due) {
         looked++;
         if (!got.equals(due)) {
-            WRONG.add(what + " answered " + got + ", due is " + due);
+            WRONG.add(sentence + what + " answered " + got + ", due is " + due);
         }
     }
 
