@@ -151,6 +151,8 @@ public final class ReadingEdgeTest {
         Due.fine(funcs + " type B struct{}" + MAIN);
         Due.same("60", Due.fresh().with(funcs + MAIN).bench.count(1), 60);
         Due.same("the last one", Due.fresh().with(funcs + " main A{}.m59();").bench.run(2), 0);
+        Due.same("the first one", Due.fresh().with(funcs + " main A{}.m0();").bench.run(2), 0);
+        Due.fault(2, funcs + " main A{}.^m60();");
     }
 
     /** Six of them are fine where @ stands, the seventh is one too many. */

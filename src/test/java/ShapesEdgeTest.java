@@ -54,6 +54,8 @@ public final class ShapesEdgeTest {
         methodsOfAnInterface();
         paramsByTheirPlaces();
         aStructIsMetByItself();
+        formalsAreNoTypes();
+        theTwentyFourthType();
         Due.end();
     }
 
@@ -252,5 +254,42 @@ public final class ShapesEdgeTest {
         ask(d, "I;E", 0);
         ask(d, "E;I", 1);
         ask(d, "E;A", 0);
+    }
+
+    private static void formalsAreNoTypes() {
+        Due.says("(FORMALS of the two counting by their places)");
+        // with 24 types: none of them is one with any of six FORMALS
+        String types = "type Any interface{} type J interface{m[" + Texts.list(6, "p# Any", ",") + "](" + Texts.list(6, "y# p#", ",")
+            + ")Any;} " + Texts.list(22, "type T# struct{}", " ") + " func(x T0)m[" + Texts.list(6, "q# Any", ",") + "](";
+        String vars = Texts.list(6, "y# q#", ",");
+        Due.same("alike", Due.fresh().with(types + vars + ")Any{return x} main T0{};").implementing("T0;J"), 1);
+        for (int var = 0; var < 6; var++) {
+            for (int type = 0; type < 22; type++) {
+                String with = vars.replace("q" + var, "T" + type);
+                Due.same(with, Due.fresh().with(types + with + ")Any{return x} main T0{};").implementing("T0;J"), 0);
+            }
+            String other = vars.replace("q" + var, "q" + (var + 1) % 6);
+            Due.same(other, Due.fresh().with(types + other + ")Any{return x} main T0{};").implementing("T0;J"), 0);
+        }
+    }
+
+    private static void theTwentyFourthType() {
+        Due.says("At most 24 types (the last of them is as good as any)");
+        Due d = Due.fresh().with("type Any interface{} type A struct{} " + Texts.list(19, "type T# struct{}", " ")
+            + " type B[a Any] struct{f Z[a];g Z[A];} type I[a Any] interface{m[p Any](y p,z Z[a])Z[p];} type Z[a Any] struct{} "
+            + "func(x B[b])m[q Any](y q,z Z[b])Z[q]{return Z[q]{}} func(x Z[b])me()Z[b]{return x} "
+            + "main B[A]{Z[A]{},Z[A]{}}.m[T0](T0{},Z[A]{}).me();");
+        Due.same("types", d.bench.count(0), 24);
+        Due.same("type", d.printed(0), "Z[T0]");
+        Due.same("run", d.bench.run(50), 0);
+        Due.same("value", d.printed(1), "Z[T0]{}");
+        ask(d, "B[A];I[A]", 1);
+        ask(d, "B[A];I[T0]", 0);
+        ask(d, "Z[A];Z[A]", 1);
+        ask(d, "Z[A];Z[T0]", 0);
+        Due.same("instances", d.bench.instances(), 2);
+        Due.same("types made", d.bench.made(0), 5);
+        Due.same("Z[T0]", d.isMade("Z[T0]"), 1);
+        Due.same("Z[T1]", d.isMade("Z[T1]"), 0);
     }
 }

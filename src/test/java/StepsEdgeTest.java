@@ -35,6 +35,7 @@ public final class StepsEdgeTest {
         whatIsWorkedOut();
         theFortiethCall();
         manyValues();
+        manyRuns();
         Due.end();
     }
 
@@ -489,5 +490,17 @@ public final class StepsEdgeTest {
         Due.same("run", d.bench.run(5000), 0);
         Due.same("steps", d.bench.count(3), 1 + 10 + 100 * (1 + 1 + 1 + 43 + 1) + 1 + 1 + 43 + 2);
         Due.same("value", d.printed(1), mid.replace("y", "C{}"));
+    }
+
+    private static void manyRuns() {
+        Due.says("(a run leaves nothing in the way of the next one)");
+        Due d = Due.fresh().with(BASE + "func(x A)m(y A,z A)A{return T[A,A]{y,z.m(y,x)}.l} main A{}.m(A{},A{});");
+        for (int i = 0; i < 300; i++) {
+            Due.same("deep", d.bench.run(200), 3);
+            Due.same("spent", d.bench.run(20), 2);
+        }
+        d.with(BASE + "func(x T[p,q])m(y q)Any{return T[q,p]{y,x.l}} main T[A,C]{A{},C{}}.m(C{});");
+        Due.same("run", d.bench.run(20), 0);
+        Due.same("value", d.printed(1), "T[C,A]{C{},A{}}");
     }
 }
