@@ -19,6 +19,7 @@ public final class ReadingEdgeTest {
         eachTokenCounts();
         mayBeMissing();
         wordsBut();
+        typeOrVar();
         mostTypes();
         mostFuncs();
         sixTold();
@@ -123,6 +124,25 @@ public final class ReadingEdgeTest {
                 Due.fault(1, with);
             }
         }
+    }
+
+    private static void typeOrVar() {
+        Due.says("A WORD in E that has { or [ behind it begins a TYPE, another one is a VAR");
+        Due.fine(A + "main A{};");
+        Due.fine(A + "main A \n {};");
+        Due.fault(2, A + "main ^A;");
+        Due.fault(1, A + "main A^(){};");
+        Due.fault(1, A + "main A ^A{};");
+        Due.fault(2, A + "main ^A.f;");
+        Due.fine(WIDE + "type Q[a Any] struct{} main Q [A] {};");
+        Due.fault(1, WIDE + "main Q[A]^;");
+        Due.fault(1, WIDE + "main Q[A]^.f;");
+        Due.fault(1, WIDE + "main Q[A]^();");
+        Due.fault(1, WIDE + "main Q[A]^[A]{};");
+        // a VAR's WORD, too
+        Due.fault(2, A + "func(x A)m()A{return ^x{}}" + MAIN);
+        Due.fault(2, A + "func(x A)m()A{return ^x[A]{}}" + MAIN);
+        Due.fault(4, ANY + A + "func(x A)m[p Any]()A{return ^p[A]{}}" + MAIN);
     }
 
     private static void mostTypes() {

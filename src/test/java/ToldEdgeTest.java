@@ -209,6 +209,12 @@ public final class ToldEdgeTest {
         // they hold for each other's BOUNDS
         Due.fine(NEED + "type D[p K[A,q],q M] struct{}" + MAIN);
         Due.fault(7, NEED + "type D[p K[A,^q],q Any] struct{}" + MAIN);
+        Due.fine(NEED + "type L[a M] interface{m()A;} type D[p L[p]] struct{}" + MAIN);
+        Due.fault(7, NEED + "type D[p K[A,^p]] struct{}" + MAIN);
+        Due.fine(NEED + "type L[a M] interface{m()A;} type D interface{n[q Any]()A;k[p L[p]](x p)A;}" + MAIN);
+        Due.fault(7, NEED + "type D interface{n[q M]()A;k[p K[A,^p]]()A;}" + MAIN);
+        Due.fine(NEED + "type L[a M] interface{m()A;} func(x A)n[q Any]()A{return x} func(x A)k[p L[p]](y p)A{return x}" + MAIN);
+        Due.fault(7, NEED + "func(x A)n[q M]()A{return x} func(x A)k[p K[A,^p]](y p)A{return x}" + MAIN);
     }
 
     private static void innerOnesFirst() {
