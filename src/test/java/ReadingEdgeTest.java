@@ -30,6 +30,9 @@ public final class ReadingEdgeTest {
         twentyPoints();
         theFirstFromTheLeft();
         theLeast();
+        fullOfValues();
+        fullOfVars();
+        fullOfTypes();
         Due.end();
     }
 
@@ -335,5 +338,53 @@ public final class ReadingEdgeTest {
         Due.fault(1, A + "main " + "A{".repeat(9) + "^{}");
         Due.fault(1, A + "func(x A)m()A{return " + "x.m(".repeat(10) + "^return");
         Due.fault(1, Texts.list(24, "type T# struct{}", " ") + " ^interface B{} main T0{};");
+    }
+
+    private static void fullOfValues() {
+        Due.says("The TAPE has at most 4,000 signs");
+        String six = "S{y,y,y,y,y,y}";
+        String mid = "S{" + Texts.list(6, six, ",") + "}";
+        String big = "S{" + Texts.list(6, mid, ",") + "}";
+        String text = ANY + A + "type S struct{" + Texts.list(6, "f# Any;", "") + "} "
+            + Texts.list(6, "func(x A)k#(y Any)Any{return " + big + "}", " ") + " main A{}.k5(A{}).(S).f5;";
+        Due d = Due.fresh().with(" ".repeat(4000 - text.length()) + text);
+        Due.same("run", d.bench.run(5000), 0);
+        Due.same("steps", d.bench.count(3), 3 + 43 + 2);
+        Due.same("value", d.printed(1), mid.replace("y", "A{}"));
+        Due.same("instances", d.bench.instances(), 1);
+    }
+
+    private static void fullOfVars() {
+        Due.says("The TAPE has at most 4,000 signs");
+        // 20 interfaces of six METHODS with six VARS, all alike but for the very last VAR
+        String methods = "a@b@c@d@e@f@".replace("@", "(a A,b A,c A,d A,e A,f A)A;");
+        String text = A + Texts.list(20, "type B# interface{" + methods + "}", " ") + MAIN;
+        Due d = Due.fresh().with(text + " ".repeat(4000 - text.length()));
+        Due.same("all alike", d.implementing("B19;B0"), 1);
+        int last = text.lastIndexOf("f A)A;");
+        Due e = Due.fresh().with(text.substring(0, last) + "f B0)A;" + text.substring(last + "f A)A;".length()));
+        Due.same("not the last", e.implementing("B19;B0"), 0);
+        Due.same("not the last", e.implementing("B0;B19"), 0);
+        Due.same("the one ahead of it", e.implementing("B18;B0"), 1);
+    }
+
+    private static void fullOfTypes() {
+        Due.says("The TAPE has at most 4,000 signs");
+        // each call is on a type of 60 WORDS, so that each has to be known
+        String type = Texts.sized(60);
+        StringBuilder text = new StringBuilder(Texts.QP + "func(x P[a,b])n()P[a,b]{return x} ");
+        int funcs = 0;
+        for (; text.length() < 3500; funcs++) {
+            text.append("func(x A)k").append(funcs).append("(y ").append(type).append(")Any{return y").append(".n()".repeat(20))
+                .append("} ");
+        }
+        text.append("main A{}.k").append(funcs - 1).append("(").append(type).append("{});");
+        Due d = Due.fresh().with(text.toString());
+        Due.same("run", d.bench.run(5000), 0);
+        Due.same("calls", d.bench.calls(), 21);
+        Due.same("value", d.printed(1), type + "{}");
+        Due.same("instances", d.bench.instances(), 2);
+        Due.same("its type", d.isMade(type), 1);
+        Due.same("asked", d.implementing(type + ";" + type), 1);
     }
 }
